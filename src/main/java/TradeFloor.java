@@ -43,10 +43,10 @@ public final class TradeFloor {
     }
 
     public int order(int o, int what) {
-        if (!exchange.hasOrder(o)) {
+        if (!exchange.orders.has(o)) {
             return REFUSED;
         }
-        Order asked = exchange.orders[o];
+        Order asked = exchange.orders.rows[o];
         switch (what) {
             case 0: return asked.owner;
             case 1: return asked.side;
@@ -68,7 +68,7 @@ public final class TradeFloor {
             case 1: return asked.goods;
             case 2: return asked.heldCash;
             case 3: return asked.heldGoods;
-            case 4: return exchange.waitingOrders(t);
+            case 4: return exchange.orders.waitingOf(t);
             default: return REFUSED;
         }
     }
@@ -77,14 +77,14 @@ public final class TradeFloor {
         if (side != BUY && side != SELL) {
             return REFUSED;
         }
-        int price = exchange.priceAt(side, k);
+        int price = exchange.orders.priceAt(side, k);
         if (price == NONE) {
             return REFUSED;
         }
         switch (what) {
             case 0: return price;
-            case 1: return exchange.leftAt(side, price);
-            case 2: return exchange.ordersAt(side, price);
+            case 1: return exchange.orders.leftAt(side, price);
+            case 2: return exchange.orders.ordersAt(side, price);
             default: return REFUSED;
         }
     }
@@ -95,13 +95,13 @@ public final class TradeFloor {
 
     public int count(int what) {
         switch (what) {
-            case 0: return exchange.orderCount;
+            case 0: return exchange.orders.size;
             case 1: return exchange.trades.made;
             case 2: return refusals;
             case 3: return exchange.last;
             case 4: return exchange.now;
             case 5: return tape.size;
-            case 6: return exchange.sleepingStops();
+            case 6: return exchange.orders.sleepingStops();
             default: return REFUSED;
         }
     }
@@ -143,7 +143,6 @@ public final class TradeFloor {
 
         void clear() {
             size = 0;
-            words = 0;
         }
 
         /** False if a word is empty (a blank too many) or there are more than any line has. */
@@ -361,21 +360,164 @@ public final class TradeFloor {
         }
     }
 
-    /** The accounts, the orders and their meeting. */
+    /** All orders that came, by number; those that are OPEN are the book. */
+    private static final class Orders {
+        final Order[] rows = new Order[ORDER_ROOM];
+        int size;
+
+        Orders() {
+            for (int o = 0; o < ORDER_ROOM; o++) {
+                rows[o] = new Order();
+            }
+        }
+
+        boolean has(int o) {
+            return o >= 0 && o < size;
+        }
+
+        boolean isFull() {
+            return size >= ORDER_ROOM;
+        }
+
+        /** The order is DONE at first, so that the book leaves it out while it meets. */
+        int enter(Command command) {
+            int number = size;
+            Order order = rows[number];
+            order.owner = command.owner;
+            order.side = command.side;
+            order.left = command.quantity;
+            order.price = command.price;
+            order.state = DONE;
+            order.end = NONE;
+            size++;
+            return number;
+        }
+
+        Order firstMatch(int side, int limit) {
+            Order best = null;
+            for (int o = 0; o < size; o++) {
+                Order order = rows[o];
+                if (isMatch(order, side, limit) && (best == null || isBetter(side, order.price, best.price))) {
+                    best = order;
+                }
+            }
+            return best;
+        }
+
+        int matchesOfOthers(int side, int limit, int owner) {
+            int sum = 0;
+            for (int o = 0; o < size; o++) {
+                if (rows[o].owner != owner && isMatch(rows[o], side, limit)) {
+                    sum += rows[o].left;
+                }
+            }
+            return sum;
+        }
+
+        private static boolean isMatch(Order order, int side, int limit) {
+            return isInBook(order, side) && (limit == ANY_PRICE || !isBetter(side, limit, order.price));
+        }
+
+        private static boolean isInBook(Order order, int side) {
+            return order.state == OPEN && order.side == side;
+        }
+
+        /** Whether an order of this side comes before another by its price alone. */
+        private static boolean isBetter(int side, int price, int other) {
+            return side == SELL ? price < other : price > other;
+        }
+
+        /** Null if every stop sleeps on. */
+        Order firstWakingStop(int last) {
+            for (int o = 0; o < size; o++) {
+                if (rows[o].state == STOP && wakes(rows[o], last)) {
+                    return rows[o];
+                }
+            }
+            return null;
+        }
+
+        private static boolean wakes(Order stop, int last) {
+            return last != 0 && (stop.side == BUY ? last >= stop.price : last <= stop.price);
+        }
+
+        int waitingOf(int owner) {
+            int found = 0;
+            for (int o = 0; o < size; o++) {
+                if (rows[o].owner == owner && rows[o].state != DONE) {
+                    found++;
+                }
+            }
+            return found;
+        }
+
+        int sleepingStops() {
+            int found = 0;
+            for (int o = 0; o < size; o++) {
+                if (rows[o].state == STOP) {
+                    found++;
+                }
+            }
+            return found;
+        }
+
+        /** The k-th price of a side's book, NONE if there is none. */
+        int priceAt(int side, int k) {
+            if (k < 0 || k >= ORDER_ROOM) {
+                return NONE;
+            }
+            int price = nextPrice(side, NONE);
+            for (int i = 0; i < k && price != NONE; i++) {
+                price = nextPrice(side, price);
+            }
+            return price;
+        }
+
+        /** The best price that is behind another (NONE: the best of all). */
+        private int nextPrice(int side, int before) {
+            int best = NONE;
+            for (int o = 0; o < size; o++) {
+                int price = rows[o].price;
+                boolean behind = before == NONE || isBetter(side, before, price);
+                if (isInBook(rows[o], side) && behind && (best == NONE || isBetter(side, price, best))) {
+                    best = price;
+                }
+            }
+            return best;
+        }
+
+        int leftAt(int side, int price) {
+            int sum = 0;
+            for (int o = 0; o < size; o++) {
+                if (isInBook(rows[o], side) && rows[o].price == price) {
+                    sum += rows[o].left;
+                }
+            }
+            return sum;
+        }
+
+        int ordersAt(int side, int price) {
+            int found = 0;
+            for (int o = 0; o < size; o++) {
+                if (isInBook(rows[o], side) && rows[o].price == price) {
+                    found++;
+                }
+            }
+            return found;
+        }
+    }
+
+    /** Does what the lines ask: moves cash and goods, and lets orders meet. */
     private static final class Exchange {
         final Account[] accounts = new Account[TRADERS];
-        final Order[] orders = new Order[ORDER_ROOM];
+        final Orders orders = new Orders();
         final Trades trades = new Trades();
-        int orderCount;
         int last;
         int now;
 
         Exchange() {
             for (int t = 0; t < TRADERS; t++) {
                 accounts[t] = new Account();
-            }
-            for (int o = 0; o < ORDER_ROOM; o++) {
-                orders[o] = new Order();
             }
         }
 
@@ -409,7 +551,7 @@ public final class TradeFloor {
         }
 
         private int placeLimit(Command command) {
-            if (orderCount >= ORDER_ROOM) {
+            if (orders.isFull()) {
                 return NO_ROOM;
             }
             if (!hasFunds(command)) {
@@ -418,50 +560,36 @@ public final class TradeFloor {
             if (!findsItsMatches(command)) {
                 return NO_MATCH;
             }
-            int number = enter(command);
-            Order order = orders[number];
+            int number = orders.enter(command);
+            Order order = orders.rows[number];
             meet(order, order.price, order.left);
             if (order.left > 0 && command.way != Command.NOW) {
                 order.state = OPEN;
-                hold(order, order.left);
                 order.end = command.way == Command.UNTIL ? now + command.ticks : NONE;
+                hold(order, order.left);
             }
             return number;
         }
 
         private int placeAny(Command command) {
-            if (orderCount >= ORDER_ROOM) {
+            if (orders.isFull()) {
                 return NO_ROOM;
             }
-            // An any buy needs no funds to come: each of its trades is as large as it can pay.
+            // A buy needs no funds to come: each of its trades is only as large as it can pay.
             if (command.side == SELL && !hasFunds(command)) {
                 return NO_FUNDS;
             }
-            int number = enter(command);
-            meet(orders[number], ANY_PRICE, command.quantity);
+            int number = orders.enter(command);
+            meet(orders.rows[number], ANY_PRICE, command.quantity);
             return number;
         }
 
         private int placeStop(Command command) {
-            if (orderCount >= ORDER_ROOM) {
+            if (orders.isFull()) {
                 return NO_ROOM;
             }
-            int number = enter(command);
-            orders[number].state = STOP;
-            return number;
-        }
-
-        /** The order is DONE at first, so that the book leaves it out while it meets. */
-        private int enter(Command command) {
-            int number = orderCount;
-            Order order = orders[number];
-            order.owner = command.owner;
-            order.side = command.side;
-            order.left = command.quantity;
-            order.price = command.price;
-            order.state = DONE;
-            order.end = NONE;
-            orderCount++;
+            int number = orders.enter(command);
+            orders.rows[number].state = STOP;
             return number;
         }
 
@@ -476,51 +604,17 @@ public final class TradeFloor {
         private boolean findsItsMatches(Command command) {
             int others = 1 - command.side;
             if (command.way == Command.POST) {
-                return firstMatch(others, command.price) == null;
+                return orders.firstMatch(others, command.price) == null;
             }
             return command.way != Command.ALL
-                    || matchesOfOthers(others, command.price, command.owner) >= command.quantity;
+                    || orders.matchesOfOthers(others, command.price, command.owner) >= command.quantity;
         }
 
-        private int matchesOfOthers(int side, int limit, int owner) {
-            int sum = 0;
-            for (int o = 0; o < orderCount; o++) {
-                if (orders[o].owner != owner && isMatch(orders[o], side, limit)) {
-                    sum += orders[o].left;
-                }
-            }
-            return sum;
-        }
-
-        private static boolean isMatch(Order order, int side, int limit) {
-            return isInBook(order, side) && (limit == ANY_PRICE || !isBetter(side, limit, order.price));
-        }
-
-        private static boolean isInBook(Order order, int side) {
-            return order.state == OPEN && order.side == side;
-        }
-
-        /** Whether an order of this side comes before another by its price alone. */
-        private static boolean isBetter(int side, int price, int other) {
-            return side == SELL ? price < other : price > other;
-        }
-
-        private Order firstMatch(int side, int limit) {
-            Order best = null;
-            for (int o = 0; o < orderCount; o++) {
-                Order order = orders[o];
-                if (isMatch(order, side, limit) && (best == null || isBetter(side, order.price, best.price))) {
-                    best = order;
-                }
-            }
-            return best;
-        }
-
-        /** Each step but the last two takes a match out of the book: the bound is never reached. */
+        /** Each step but the last two takes a match out of the book, so the bound is never reached. */
         private void meet(Order taker, int limit, int quantity) {
             int open = quantity;
             for (int step = 0; step < ORDER_ROOM + 2 && open > 0; step++) {
-                Order match = firstMatch(1 - taker.side, limit);
+                Order match = orders.firstMatch(1 - taker.side, limit);
                 if (match == null) {
                     return;
                 }
@@ -585,7 +679,7 @@ public final class TradeFloor {
             if (refusal != 0) {
                 return refusal;
             }
-            Order order = orders[command.target];
+            Order order = orders.rows[command.target];
             cancel(order);
             return order.left;
         }
@@ -595,7 +689,7 @@ public final class TradeFloor {
             if (refusal != 0) {
                 return refusal;
             }
-            Order order = orders[command.target];
+            Order order = orders.rows[command.target];
             if (command.amount >= order.left) {
                 return WRONG_WORDS;
             }
@@ -606,11 +700,12 @@ public final class TradeFloor {
             return order.left;
         }
 
+        /** 0 if the order that a cancel or a less names may be changed. */
         private int refusalOfTarget(Command command) {
-            if (!hasOrder(command.target)) {
+            if (!orders.has(command.target)) {
                 return NO_ORDER;
             }
-            Order order = orders[command.target];
+            Order order = orders.rows[command.target];
             if (order.owner != command.owner) {
                 return NOT_YOURS;
             }
@@ -628,109 +723,28 @@ public final class TradeFloor {
 
         private int endOrdersOfNow() {
             int ended = 0;
-            for (int o = 0; o < orderCount; o++) {
-                if (orders[o].state == OPEN && orders[o].end == now) {
-                    cancel(orders[o]);
+            for (int o = 0; o < orders.size; o++) {
+                Order order = orders.rows[o];
+                if (order.state == OPEN && order.end == now) {
+                    cancel(order);
                     ended++;
                 }
             }
             return ended;
         }
 
-        /** A woken stop never sleeps again: the bound is never reached. */
+        /** A woken stop never sleeps again, so the bound is never reached. */
         void wakeStops() {
             for (int i = 0; i < ORDER_ROOM; i++) {
-                Order stop = firstWakingStop();
+                Order stop = orders.firstWakingStop(last);
                 if (stop == null) {
                     return;
                 }
                 stop.state = DONE;
-                // Waking does not change LEFT: only what a sell may trade is bounded by its goods.
+                // Waking does not change LEFT: a sell short of goods only trades no more than there are.
                 long most = stop.side == SELL ? accounts[stop.owner].freeGoods() : stop.left;
                 meet(stop, ANY_PRICE, (int) Math.min(most, stop.left));
             }
-        }
-
-        private Order firstWakingStop() {
-            for (int o = 0; o < orderCount; o++) {
-                if (orders[o].state == STOP && wakes(orders[o])) {
-                    return orders[o];
-                }
-            }
-            return null;
-        }
-
-        private boolean wakes(Order stop) {
-            return last != 0 && (stop.side == BUY ? last >= stop.price : last <= stop.price);
-        }
-
-        boolean hasOrder(int o) {
-            return o >= 0 && o < orderCount;
-        }
-
-        int waitingOrders(int owner) {
-            int found = 0;
-            for (int o = 0; o < orderCount; o++) {
-                if (orders[o].owner == owner && orders[o].state != DONE) {
-                    found++;
-                }
-            }
-            return found;
-        }
-
-        int sleepingStops() {
-            int found = 0;
-            for (int o = 0; o < orderCount; o++) {
-                if (orders[o].state == STOP) {
-                    found++;
-                }
-            }
-            return found;
-        }
-
-        /** The k-th price of a side's book, NONE if there is none. */
-        int priceAt(int side, int k) {
-            if (k < 0 || k >= ORDER_ROOM) {
-                return NONE;
-            }
-            int price = nextPrice(side, NONE);
-            for (int i = 0; i < k && price != NONE; i++) {
-                price = nextPrice(side, price);
-            }
-            return price;
-        }
-
-        /** The best price that is behind another (NONE: the best of all). */
-        private int nextPrice(int side, int before) {
-            int best = NONE;
-            for (int o = 0; o < orderCount; o++) {
-                int price = orders[o].price;
-                boolean behind = before == NONE || isBetter(side, before, price);
-                if (isInBook(orders[o], side) && behind && (best == NONE || isBetter(side, price, best))) {
-                    best = price;
-                }
-            }
-            return best;
-        }
-
-        int leftAt(int side, int price) {
-            int sum = 0;
-            for (int o = 0; o < orderCount; o++) {
-                if (isInBook(orders[o], side) && orders[o].price == price) {
-                    sum += orders[o].left;
-                }
-            }
-            return sum;
-        }
-
-        int ordersAt(int side, int price) {
-            int found = 0;
-            for (int o = 0; o < orderCount; o++) {
-                if (isInBook(orders[o], side) && orders[o].price == price) {
-                    found++;
-                }
-            }
-            return found;
         }
     }
 }

@@ -117,7 +117,7 @@ public final class Promise3LimitTest {
         }
         desk.line("buy 0 1 any", NO_ROOM).line("sell 1 1 any", NO_ROOM).line("sell 1 1 at 5", NO_ROOM)
                 .line("buy 0 1 at 5", NO_ROOM).line("sell 1 1 at 5 all", NO_ROOM).line("stop buy 0 1 at 1", NO_ROOM)
-                .line("buy 0 0 any", -11).count(0, 40).count(2, 7).order(39, 0, 0, 1, 0, 2, -1).order(40, -1)
+                .line("buy 0 0 any", -11).count(0, 40).count(2, 7).count(6, 0).order(39, 0, 0, 1, 0, 2, -1).order(40, -1)
                 .trader(1, 0, 99, 0, 0, 0).line("cash 0 1", 1).line("tick 1", 0).line("cancel 0 40", -12)
                 .line("cancel 0 39", -14);
     }

@@ -1,0 +1,36 @@
+import java.io.IOException;
+import java.nio.file.Files;
+import java.nio.file.Path;
+import java.util.regex.Matcher;
+import java.util.regex.Pattern;
+
+/** Rules of LANGUAGE.md that a look at the words of the program can watch; run from the project's folder. */
+public final class LanguageTest {
+    public static void main(String[] args) throws IOException {
+        String program = Files.readString(Path.of("src/main/java/TradeFloor.java"));
+        String code = program.replaceAll("(?s)/\\*.*?\\*/", "").replaceAll("//[^\n]*", "")
+                .replaceAll("\"[^\"\n]*\"", "\"\"");
+        String[] forbidden = {"package", "import", "throw", "throws", "try", "catch", "finally", "synchronized",
+            "assert", "var", "System", "Object", "Thread", "protected"};
+        for (String word : forbidden) {
+            Desk.check(!Pattern.compile("\\b" + word + "\\b").matcher(code).find(), "the program says " + word);
+        }
+        Desk.check(!code.contains("->") && !code.contains("::"), "a lambda or a method reference");
+        Desk.check(!Pattern.compile("\"\\s*\\+|\\+\\s*\"").matcher(code).find(), "texts joined by +");
+        Desk.check(!Pattern.compile("private[^=;(]* (feed|line|order|trader|level|trade|count)\\(").matcher(code).find(),
+                "a private method with the name of a public one");
+        nestedClassesAreStatic(code);
+        Desk.finish();
+    }
+
+    private static void nestedClassesAreStatic(String code) {
+        Matcher classes = Pattern.compile("([a-z ]*)\\bclass (\\w+)").matcher(code);
+        int found = 0;
+        while (classes.find()) {
+            found++;
+            boolean outer = classes.group(2).equals("TradeFloor");
+            Desk.check(outer || classes.group(1).contains("private static"), classes.group(2) + " is not static");
+        }
+        Desk.check(found <= 12, "too many classes: " + found);
+    }
+}
