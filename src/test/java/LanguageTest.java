@@ -10,11 +10,13 @@ public final class LanguageTest {
         String program = Files.readString(Path.of("src/main/java/TradeFloor.java"));
         String code = program.replaceAll("(?s)/\\*.*?\\*/", "").replaceAll("//[^\n]*", "")
                 .replaceAll("\"[^\"\n]*\"", "\"\"");
-        String[] forbidden = {"package", "import", "throw", "throws", "try", "catch", "finally", "synchronized",
+        String[] forbidden = {"package", "throw", "throws", "try", "catch", "finally", "synchronized",
             "assert", "protected"};
         for (String word : forbidden) {
             Desk.check(!Pattern.compile("\\b" + word + "\\b").matcher(code).find(), "the program says " + word);
         }
+        Desk.check(!Pattern.compile("\\bimport (?!java\\.util\\.(ArrayList|List|Arrays|Iterator);)").matcher(code).find(),
+                "an import beyond the library that is listed");
         Desk.check(!Pattern.compile("\\bSystem\\.(?!arraycopy\\b)").matcher(code).find(), "a call to the system");
         Desk.check(!code.contains("->") && !code.contains("::"), "a lambda or a method reference");
         Desk.check(!Pattern.compile("\"\\s*\\+|\\+\\s*\"").matcher(code).find(), "texts joined by +");
