@@ -1,12 +1,13 @@
 /** Promise 3, line: which words are a LINE, and what cash, goods and take do. */
 public final class Promise3WordsTest {
     private static final int WRONG_WORDS = -11;
+    private static final char[] BLANK_LIKE = {1, 9, 10, 11, 12, 13, 31, 33, 95, 160, 255};
 
     public static void main(String[] args) {
         gifts();
         takes();
         wordsThatAreNoLine();
-        numbersThatAreNone();
+        wordsThatAreAlmostALine();
         zerosBefore();
         refusalEmptiesTheTape();
         Desk.finish();
@@ -39,25 +40,35 @@ public final class Promise3WordsTest {
         }
     }
 
-    private static void numbersThatAreNone() {
-        String[] wrong = {"cash 8 5", "cash 10 5", "cash -1 5", "cash a 5", "cash 0 12345678", "cash 0 00000005",
-            "cash 0 -5", "cash 0 +5", "cash 0 5a", "cash 0 a5", "cash 0 /", "cash 0 :", "cash 0 1.5", "goods 8 5",
-            "goods 0 12345678", "take 8 0", "take 0 x", "buy 8 5 at 5", "buy 0 0 at 5", "buy 0 10000 at 5",
-            "buy 0 5 at 0", "buy 0 5 at 10000", "buy 0 5 at 5 until 0", "buy 0 5 at 5 until 100",
-            "buy 0 5 at 5 until x", "buy 8 5 any", "buy 0 0 any", "buy 0 10000 any", "sell 8 1 at 5", "sell 0 0 at 5",
-            "sell 0 1 at 0", "sell 0 10000 at 1", "sell 0 1 at 10000", "sell 0 0 any", "stop buy 8 5 at 5",
-            "stop buy 0 0 at 5", "stop buy 0 5 at 0", "stop sell 0 10000 at 5", "stop sell 0 5 at 10000",
-            "cancel 8 0", "cancel 0 12345678", "less 8 0 0", "less 0 0 12345678", "less 0 12345678 0", "tick 0",
-            "tick 100", "tick -1", "tick 00000001", "buy 00000000 5 at 5"};
-        for (String line : wrong) {
-            refusedWithoutATrace(line);
+    /** Every letter and every blank of every LINE left out, doubled or changed makes it none. */
+    private static void wordsThatAreAlmostALine() {
+        String[] right = {"cash 0 5", "goods 0 5", "take 0 5", "buy 0 5 at 5", "sell 0 5 at 5", "buy 0 5 at 5 now",
+            "sell 0 5 at 5 now", "buy 0 1 at 5 all", "sell 0 1 at 5 all", "buy 0 5 at 5 post", "sell 0 5 at 5 post",
+            "buy 0 5 at 5 until 5", "sell 0 5 at 5 until 5", "buy 0 5 any", "sell 0 5 any", "stop buy 0 5 at 5",
+            "stop sell 0 5 at 5", "cancel 0 0", "less 0 0 1", "tick 5"};
+        for (String line : right) {
+            for (int i = 0; i < line.length(); i++) {
+                char sign = line.charAt(i);
+                if (sign >= '0' && sign <= '9') {
+                    continue;
+                }
+                String before = line.substring(0, i);
+                String behind = line.substring(i + 1);
+                refusedWithoutATrace(before + behind);
+                refusedWithoutATrace(before + sign + sign + behind);
+                for (char other : sign == ' ' ? BLANK_LIKE : new char[] {(char) (sign ^ 32), (char) (sign + 128), ' '}) {
+                    refusedWithoutATrace(before + other + behind);
+                }
+            }
+            refusedWithoutATrace(" " + line);
+            refusedWithoutATrace(line + " ");
+            refusedWithoutATrace(line + " x");
         }
     }
 
     private static void refusedWithoutATrace(String line) {
         Desk desk = new Desk("wrong words").lines("cash 0 1000000", "goods 0 50", "buy 0 3 at 2");
-        desk.feed(line.length() > 40 ? line.substring(0, 40) : line).line("", WRONG_WORDS);
-        desk.due("'" + line + "' counted", desk.floor.count(2), 1);
+        desk.line(line.length() > 40 ? line.substring(0, 40) : line, WRONG_WORDS).count(2, 1);
         desk.trader(0, 1000000, 50, 6, 0, 1).count(0, 1).count(1, 0).count(4, 0).count(5, 0).count(6, 0);
         desk.order(0, 0, 0, 3, 2, 0, -1);
     }

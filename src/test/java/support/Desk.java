@@ -1,4 +1,6 @@
 import java.nio.charset.StandardCharsets;
+import java.util.ArrayList;
+import java.util.List;
 
 /** A new floor with short ways to speak to it; every answer that is not the one due is printed and counted. */
 final class Desk {
@@ -61,38 +63,48 @@ final class Desk {
     /** Trader, side, LEFT, price, state, end. */
     Desk order(int o, int... due) {
         for (int what = 0; what < due.length; what++) {
-            called();
-            due("order(" + o + ", " + what + ")", floor.order(o, what), due[what]);
+            orderWhat(o, what, due[what]);
         }
         return this;
     }
 
-    Desk left(int o, int due) {
+    Desk orderWhat(int o, int what, int due) {
         called();
-        return due("order(" + o + ", 2)", floor.order(o, 2), due);
+        return due("order(" + o + ", " + what + ")", floor.order(o, what), due);
+    }
+
+    Desk left(int o, int due) {
+        return orderWhat(o, 2, due);
     }
 
     Desk state(int o, int due) {
-        called();
-        return due("order(" + o + ", 4)", floor.order(o, 4), due);
+        return orderWhat(o, 4, due);
     }
 
     /** CASH, GOODS, HELD CASH, HELD GOODS, waiting orders. */
     Desk trader(int t, long... due) {
         for (int what = 0; what < due.length; what++) {
-            called();
-            due("trader(" + t + ", " + what + ")", floor.trader(t, what), due[what]);
+            traderWhat(t, what, due[what]);
         }
         return this;
+    }
+
+    Desk traderWhat(int t, int what, long due) {
+        called();
+        return due("trader(" + t + ", " + what + ")", floor.trader(t, what), due);
     }
 
     /** Price, LEFT, orders. */
     Desk level(int side, int k, int... due) {
         for (int what = 0; what < due.length; what++) {
-            called();
-            due("level(" + side + ", " + k + ", " + what + ")", floor.level(side, k, what), due[what]);
+            levelWhat(side, k, what, due[what]);
         }
         return this;
+    }
+
+    Desk levelWhat(int side, int k, int what, int due) {
+        called();
+        return due("level(" + side + ", " + k + ", " + what + ")", floor.level(side, k, what), due);
     }
 
     Desk noLevel(int side, int k) {
@@ -102,10 +114,14 @@ final class Desk {
     /** Buyer, seller, price, quantity. */
     Desk trade(int k, int... due) {
         for (int what = 0; what < due.length; what++) {
-            called();
-            due("trade(" + k + ", " + what + ")", floor.trade(k, what), due[what]);
+            tradeWhat(k, what, due[what]);
         }
         return this;
+    }
+
+    Desk tradeWhat(int k, int what, int due) {
+        called();
+        return due("trade(" + k + ", " + what + ")", floor.trade(k, what), due);
     }
 
     Desk noTrade(int k) {
@@ -115,6 +131,44 @@ final class Desk {
     Desk count(int what, int due) {
         called();
         return due("count(" + what + ")", floor.count(what), due);
+    }
+
+    /** Whatever can be seen of a floor with so many orders, but for the count of refusals. */
+    List<Long> sight(int orders) {
+        List<Long> seen = new ArrayList<>();
+        for (int what : new int[] {0, 1, 3, 4, 5, 6}) {
+            called();
+            seen.add((long) floor.count(what));
+        }
+        for (int t = 0; t < 8; t++) {
+            for (int what = 0; what < 5; what++) {
+                called();
+                seen.add(floor.trader(t, what));
+            }
+        }
+        for (int o = 0; o <= orders; o++) {
+            for (int what = 0; what < 6; what++) {
+                called();
+                seen.add((long) floor.order(o, what));
+            }
+        }
+        seeBookAndTrades(seen);
+        return seen;
+    }
+
+    private void seeBookAndTrades(List<Long> seen) {
+        for (int k = 0; k < 6; k++) {
+            for (int what = 0; what < 3; what++) {
+                called();
+                seen.add((long) floor.level(0, k, what));
+                called();
+                seen.add((long) floor.level(1, k, what));
+            }
+            for (int what = 0; what < 4; what++) {
+                called();
+                seen.add((long) floor.trade(k, what));
+            }
+        }
     }
 
     Desk due(String call, long got, long due) {
