@@ -9,6 +9,7 @@ public final class Promise2FeedTest {
         aWordOfZeros();
         justFortySigns();
         oneMoreThanForty();
+        everyOtherByteIsASign();
         fullAddsNothing();
         fullIsNoRefusal();
         aLineEmptiesAFullTape();
@@ -80,6 +81,13 @@ public final class Promise2FeedTest {
         filled(39).feedWord(0x41000041, TradeFloor.FULL).count(5, 39).feedWord(0x00004100, 40);
         filled(38).feedWord(0x41410041, TradeFloor.FULL).count(5, 38).feedWord(0x00414100, 40);
         filled(37).feedWord(0x41414141, TradeFloor.FULL).count(5, 37).feedWord(0x00414141, 40);
+    }
+
+    private static void everyOtherByteIsASign() {
+        for (int sign = 1; sign <= 255; sign++) {
+            new Desk("sign " + sign).feedWord(sign, 1).feedWord(sign << 24, 2).feedWord(sign << 16 | sign << 8, 4);
+            filled(39).feedWord(sign, 40).feedWord(sign, TradeFloor.FULL).feedWord(sign << 24, TradeFloor.FULL);
+        }
     }
 
     private static void fullAddsNothing() {

@@ -1,13 +1,14 @@
 /** Promise 3, line: cancel, less and tick. */
 public final class Promise3CancelLessTickTest {
-    private static final int WRONG_WORDS = -11, NO_ORDER = -12, NOT_YOURS = -13, IS_DONE = -14;
+    private static final int WRONG_WORDS = -11, IS_DONE = -14;
 
     public static void main(String[] args) {
         cancels();
         lessens();
         lessKeepsThePlace();
-        refusals();
         ticks();
+        ticksEndWhatWaits();
+        endsOfOneRun();
         Desk.finish();
     }
 
@@ -35,14 +36,6 @@ public final class Promise3CancelLessTickTest {
                 .trade(1, 1, 2, 7, 1);
     }
 
-    private static void refusals() {
-        new Desk("refusals").line("cancel 0 0", NO_ORDER).line("less 0 0 0", NO_ORDER).lines("cash 0 100", "buy 0 5 at 7")
-                .line("cancel 1 1", NO_ORDER).line("less 1 1 9999", NO_ORDER).line("cancel 0 9999999", NO_ORDER)
-                .line("cancel 1 0", NOT_YOURS).line("less 1 0 99", NOT_YOURS).lines("cancel 0 0")
-                .line("cancel 1 0", NOT_YOURS).line("less 1 0 99", NOT_YOURS).line("less 0 0 99", IS_DONE)
-                .line("less 0 0 0", IS_DONE).line("cancel 0 0", IS_DONE).count(2, 12).left(0, 5);
-    }
-
     private static void ticks() {
         Desk desk = new Desk("ticks").lines("cash 0 100", "goods 1 9", "buy 0 1 at 5 until 3", "sell 1 2 at 8 until 3",
                 "buy 0 1 at 4 until 2", "buy 0 1 at 3", "buy 0 1 at 2 until 99", "stop buy 0 1 at 9");
@@ -54,5 +47,30 @@ public final class Promise3CancelLessTickTest {
                 "buy 0 1 at 5 until 5", "buy 0 1 at 5 until 6").line("cancel 0 1", 1).line("tick 5", 2).state(3, 0)
                 .count(4, 5).trader(0, 100, 0, 5, 0, 1).line("buy 0 1 at 5 until 1", 4).order(4, 0, 0, 1, 5, 0, 6)
                 .line("tick 1", 2).trader(0, 100, 0, 0, 0, 0);
+    }
+
+    /** An order that is DONE before its time is not cancelled again, and a stop has no time. */
+    private static void ticksEndWhatWaits() {
+        new Desk("met before").lines("cash 0 100", "goods 1 9", "buy 0 2 at 5 until 3", "sell 1 2 at 5").line("tick 5", 0)
+                .order(0, 0, 0, 0, 5, 2, 3).trader(0, 90, 2, 0, 0, 0);
+        new Desk("cancelled before").lines("cash 0 100", "buy 0 2 at 5 until 3", "cancel 0 0").line("tick 5", 0)
+                .order(0, 0, 0, 2, 5, 2, 3).trader(0, 100, 0, 0, 0, 0);
+        new Desk("met in part before").lines("cash 0 100", "goods 1 9", "buy 0 3 at 5 until 3", "sell 1 2 at 5")
+                .trader(0, 90, 2, 5, 0, 1).line("tick 3", 1).order(0, 0, 0, 1, 5, 2, 3).trader(0, 90, 2, 0, 0, 0);
+        new Desk("lessened before").lines("goods 0 9", "sell 0 3 at 5 until 3", "less 0 0 1").line("tick 2", 0)
+                .trader(0, 0, 9, 0, 2, 1).line("tick 1", 1).order(0, 0, 1, 2, 5, 2, 3).trader(0, 0, 9, 0, 0, 0);
+        new Desk("no end").lines("cash 0 100", "buy 0 3 at 5", "stop buy 0 3 at 5").line("tick 99", 0).line("tick 99", 0)
+                .state(0, 0).state(1, 1);
+    }
+
+    /** Every time between is passed, each order ends at its own. */
+    private static void endsOfOneRun() {
+        Desk desk = new Desk("one run").lines("cash 0 100", "goods 1 100");
+        for (int n = 1; n <= 10; n++) {
+            desk.lines("buy 0 1 at 1 until " + n, "sell 1 1 at 9 until " + (20 - n));
+        }
+        desk.line("tick 9", 9).traderWhat(0, 4, 1).traderWhat(1, 4, 10).line("tick 1", 2).traderWhat(1, 4, 9)
+                .line("tick 8", 8).line("tick 1", 1).line("tick 99", 0).trader(0, 100, 0, 0, 0, 0)
+                .trader(1, 0, 100, 0, 0, 0).count(4, 118);
     }
 }

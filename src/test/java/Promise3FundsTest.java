@@ -93,6 +93,10 @@ public final class Promise3FundsTest {
                 .left(2, 4).trader(0, 0, 1, 0, 0, 0);
         new Desk("one too few for one").lines(book).lines("cash 0 6").line("buy 0 5 any", 2).noTrade(0)
                 .order(2, 0, 0, 5, 0, 2, -1).trader(0, 6, 0, 0, 0, 0).count(2, 0).count(3, 0).left(0, 3);
+        new Desk("at the least price").lines("goods 1 9", "sell 1 9 at 1", "cash 0 3").line("buy 0 5 any", 1).left(1, 2)
+                .trade(0, 0, 1, 1, 3).trader(0, 0, 3, 0, 0, 0).line("buy 0 5 any", 2).left(2, 5).noTrade(1);
+        new Desk("at the greatest price").lines("goods 1 9", "sell 1 9 at 9999", "cash 0 19997").line("buy 0 5 any", 1)
+                .left(1, 4).trader(0, 9998, 1, 0, 0, 0).lines("cash 0 1").line("buy 0 5 any", 2).left(2, 4).trader(0, 0, 2);
         new Desk("no cash").lines(book).line("buy 0 9999 any", 2).noTrade(0).left(2, 9999).count(2, 0);
         new Desk("beside what is held").lines(book).lines("cash 0 20", "buy 0 7 at 2").line("buy 0 5 any", 3).noTrade(0)
                 .left(3, 5).lines("cash 0 1").line("buy 0 5 any", 4).trade(0, 0, 1, 7, 1).left(4, 4)

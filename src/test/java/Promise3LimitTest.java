@@ -1,10 +1,9 @@
 /** Promise 3, line: limits, and their ways now, all, post and until. */
 public final class Promise3LimitTest {
-    private static final int NO_ROOM = -15, NO_FUNDS = -16, NO_MATCH = -17;
+    private static final int NO_FUNDS = -16, NO_MATCH = -17;
 
     public static void main(String[] args) {
         fundsAreHeld();
-        fundsAreLooked();
         tradesAtThePriceThatWaited();
         bestPriceThenLowestNumber();
         ownOrdersAreCancelledNotTraded();
@@ -12,8 +11,6 @@ public final class Promise3LimitTest {
         all();
         post();
         until();
-        orderOfRefusals();
-        noRoom();
         large();
         Desk.finish();
     }
@@ -21,18 +18,6 @@ public final class Promise3LimitTest {
     private static void fundsAreHeld() {
         new Desk("held").lines("cash 0 100", "goods 0 10").line("buy 0 5 at 7", 0).line("sell 0 4 at 9", 1)
                 .trader(0, 100, 10, 35, 4, 2).line("buy 0 5 at 8", 2).trader(0, 100, 10, 75, 4, 3);
-    }
-
-    private static void fundsAreLooked() {
-        new Desk("funds").lines("cash 0 35", "goods 0 4").line("buy 0 6 at 6", NO_FUNDS).line("buy 0 5 at 7", 0)
-                .line("buy 0 1 at 1", NO_FUNDS).line("sell 0 5 at 9", NO_FUNDS).line("sell 0 4 at 9", 1)
-                .line("sell 0 1 at 9", NO_FUNDS).count(0, 2).count(2, 4).trader(0, 35, 4, 35, 4, 2);
-        // What an own order that would be cancelled holds does not count as free.
-        new Desk("own held").lines("goods 0 5", "cash 0 10", "buy 0 2 at 5").line("sell 0 6 at 5", NO_FUNDS)
-                .line("buy 0 1 at 1", NO_FUNDS).state(0, 0);
-        // A buy needs its own price, also where it would pay less.
-        new Desk("own price").lines("cash 0 10", "goods 1 5", "sell 1 5 at 2").line("buy 0 5 at 3", NO_FUNDS)
-                .line("buy 0 5 at 2", 1).trader(0, 0, 5, 0, 0, 0);
     }
 
     private static void tradesAtThePriceThatWaited() {
@@ -102,24 +87,6 @@ public final class Promise3LimitTest {
                 .order(0, 0, 0, 2, 5, 0, 8).line("sell 1 3 at 5 until 99", 1).order(1, 1, 1, 1, 5, 0, 104).state(0, 2)
                 .order(0, 0, 0, 0, 5, 2, 8).line("buy 0 1 at 5 until 3", 2).order(2, 0, 0, 0, 5, 2, -1);
         desk.line("buy 0 1 at 1", 3).order(3, 0, 0, 1, 1, 0, -1).line("tick 99", 0).state(3, 0).count(4, 104);
-    }
-
-    private static void orderOfRefusals() {
-        Desk desk = new Desk("refusals").lines("goods 1 9", "sell 1 9 at 5");
-        desk.line("buy 0 1 at 5 post", NO_FUNDS).line("buy 0 99 at 5 all", NO_FUNDS).lines("cash 0 5")
-                .line("buy 0 1 at 5 post", NO_MATCH).count(2, 3);
-    }
-
-    private static void noRoom() {
-        Desk desk = new Desk("room").lines("goods 1 99");
-        for (int o = 0; o < 40; o++) {
-            desk.line("buy 0 1 any", o);
-        }
-        desk.line("buy 0 1 any", NO_ROOM).line("sell 1 1 any", NO_ROOM).line("sell 1 1 at 5", NO_ROOM)
-                .line("buy 0 1 at 5", NO_ROOM).line("sell 1 1 at 5 all", NO_ROOM).line("stop buy 0 1 at 1", NO_ROOM)
-                .line("buy 0 0 any", -11).count(0, 40).count(2, 7).count(6, 0).order(39, 0, 0, 1, 0, 2, -1).order(40, -1)
-                .trader(1, 0, 99, 0, 0, 0).line("cash 0 1", 1).line("tick 1", 0).line("cancel 0 40", -12)
-                .line("cancel 0 39", -14);
     }
 
     private static void large() {

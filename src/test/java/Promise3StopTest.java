@@ -33,6 +33,12 @@ public final class Promise3StopTest {
         tradeAt(new Desk("sell at").lines("stop sell 0 5 at 7"), 7).order(0, 0, 1, 5, 7, 2, -1).count(6, 0);
         tradeAt(new Desk("sell below").lines("stop sell 0 5 at 7"), 6).state(0, 2);
 
+        tradeAt(new Desk("least").lines("stop sell 0 5 at 1", "stop buy 0 5 at 1"), 1).state(0, 2).state(1, 2);
+        tradeAt(new Desk("above the least").lines("stop sell 0 5 at 1", "stop buy 0 5 at 3"), 2).state(0, 1).state(1, 1);
+        tradeAt(new Desk("greatest").lines("stop buy 0 5 at 9999", "stop sell 0 5 at 9999"), 9999).state(0, 2).state(1, 2);
+        tradeAt(new Desk("below the greatest").lines("stop buy 0 5 at 9999", "stop sell 0 5 at 9997"), 9998).state(0, 1)
+                .state(1, 1);
+
         // Woken, it takes any price, not its own.
         tradeAt(new Desk("any price").lines("cash 0 99", "goods 1 9", "sell 1 2 at 20", "stop buy 0 3 at 7"), 7)
                 .order(1, 0, 0, 1, 7, 2, -1).trade(1, 0, 1, 20, 2).count(3, 20).trader(0, 59, 2, 0, 0, 0);
